@@ -40,6 +40,9 @@ public final class FewPlaces {
     private final Rule[] keptRules = new Rule[MOST_KEPT];
     private final boolean[] isKept = new boolean[MOST_KEPT];
     private final int[] coefficients = new int[POLYNOMIAL_TERMS];
+    private final long[] powersOfX = new long[POLYNOMIAL_DEGREE + 1];
+    private final long[] powersOfY = new long[POLYNOMIAL_DEGREE + 1];
+    private final long[] powersOfLower = new long[POLYNOMIAL_DEGREE + 1];
     private final Sheet[] sheets = new Sheet[SHEETS];
     private int traced = 0;
     private int latestFault = 0;
@@ -398,6 +401,15 @@ public final class FewPlaces {
         return product;
     }
 
+    /** All powers of a base that there is room for, from the one with 0 on. */
+    private static void fillPowers(long base, long[] powers) {
+        long product = 1;
+        for (int i = 0; i < powers.length; i++) {
+            powers[i] = product;
+            product *= base;
+        }
+    }
+
     private static long commonDivisor(long one, long other) {
         long a = Math.abs(one);
         long b = Math.abs(other);
@@ -530,32 +542,34 @@ public final class FewPlaces {
     }
 
     private void findSumOfCut(int k) {
-        long lower = (long) k * rule.q;
+        fillPowers((long) k * rule.q, powersOfLower);
         long upper = 0;
         for (int i = 0; i < k; i++) {
             for (int j = 0; j < k; j++) {
                 // The middle of the smaller box, told by the same lower number as its places.
-                upper += sumMoved((2 * i + 1 - k) * rule.q, (2 * j + 1 - k) * rule.q, lower);
+                upper += sumMoved((2 * i + 1 - k) * rule.q, (2 * j + 1 - k) * rule.q);
             }
         }
-        answer.become(upper, (long) rule.w * k * k * power(lower, POLYNOMIAL_DEGREE));
+        answer.become(upper, (long) rule.w * k * k * powersOfLower[POLYNOMIAL_DEGREE]);
     }
 
-    private long sumMoved(int moveX, int moveY, long lower) {
+    private long sumMoved(int moveX, int moveY) {
         long total = 0;
         for (int p = 0; p < rule.size; p++) {
-            total += rule.weights[p] * valueAt(rule.xs[p] + moveX, rule.ys[p] + moveY, lower);
+            total += rule.weights[p] * valueAt(rule.xs[p] + moveX, rule.ys[p] + moveY);
         }
         return total;
     }
 
     /** The polynomial at (x by lower, y by lower), times lower to the fourth. */
-    private long valueAt(int x, int y, long lower) {
+    private long valueAt(int x, int y) {
+        fillPowers(x, powersOfX);
+        fillPowers(y, powersOfY);
         long value = 0;
         for (int t = 0; t < POLYNOMIAL_TERMS; t++) {
             if (coefficients[t] != 0) {
                 int missing = POLYNOMIAL_DEGREE - POWER_X[t] - POWER_Y[t];
-                value += coefficients[t] * power(x, POWER_X[t]) * power(y, POWER_Y[t]) * power(lower, missing);
+                value += coefficients[t] * powersOfX[POWER_X[t]] * powersOfY[POWER_Y[t]] * powersOfLower[missing];
             }
         }
         return value;
@@ -847,7 +861,7 @@ public final class FewPlaces {
         }
     }
 
-    /** The orbits of a grid that lie within a domain, in order of their least place, and the search of pairs of them. */
+    /** The orbits of a grid within a domain, in order of their least place, and the search of pairs of them. */
     private static final class Grid {
         int domain = BOX;
         int q = 1;
@@ -862,6 +876,8 @@ public final class FewPlaces {
         /** The moments times q^(a + b). */
         final long[] dueUpper = new long[PAIR_TERMS];
         final long[] dueLower = new long[PAIR_TERMS];
+        final long[] powersOfX = new long[PAIR_DEGREE + 1];
+        final long[] powersOfY = new long[PAIR_DEGREE + 1];
         final Fraction one = new Fraction();
         final Fraction other = new Fraction();
         long firstWeight = 0;
@@ -900,14 +916,19 @@ public final class FewPlaces {
             ys[size] = y;
             counts[size] = orbit.size;
             radii[size] = x * x + y * y + z * z;
-            for (int t = 0; t < PAIR_TERMS; t++) {
-                long total = 0;
-                for (int i = 0; i < orbit.size; i++) {
-                    total += power(orbit.xs[i], POWER_X[t]) * power(orbit.ys[i], POWER_Y[t]);
-                }
-                powerSums[size][t] = total;
+            Arrays.fill(powerSums[size], 0);
+            for (int i = 0; i < orbit.size; i++) {
+                addPowers(powerSums[size], orbit.xs[i], orbit.ys[i]);
             }
             size++;
+        }
+
+        void addPowers(long[] sums, int x, int y) {
+            fillPowers(x, powersOfX);
+            fillPowers(y, powersOfY);
+            for (int t = 0; t < PAIR_TERMS; t++) {
+                sums[t] += powersOfX[POWER_X[t]] * powersOfY[POWER_Y[t]];
+            }
         }
 
         /** Whether there is a pair for the degree: bestFirst and bestSecond are the orbits of the fewest. */

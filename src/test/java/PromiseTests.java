@@ -1,4 +1,7 @@
-/** Each promise of the document with ordinary numbers, edges and wrong ones; what is due was worked out by hand. */
+/**
+ * Each promise of the document with ordinary numbers, edges and wrong ones. What is due was worked out from the document,
+ * but for the rows of the pairs: those are what the program and the oracle both found.
+ */
 public final class PromiseTests {
     private static final long LOST = Long.MIN_VALUE;
     private static final int TOP = Integer.MAX_VALUE, BOTTOM = Integer.MIN_VALUE;
@@ -193,7 +196,7 @@ public final class PromiseTests {
             due("5 by X", x.about(p, 0), xs[p]);
             due("5 then Y", x.about(p, 1), ys[p]);
         }
-        due("5 three", x.orbit(2, -2, 1), 6);
+        due("5 six, not all in the triangle", x.orbit(2, -2, 1), 6);
         due("5 z too great", x.orbit(-10, -9, 1), -2);
         due("5 z as great as may be", x.orbit(-9, -9, 1), 3);
         due("5 z too small", x.orbit(24, 7, 1), -2);

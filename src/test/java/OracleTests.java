@@ -7,7 +7,8 @@ import java.util.Random;
 
 /** Long runs of calls, drawn with set seeds, on the program and on the oracle: every answer must be the same. */
 public final class OracleTests {
-    private static final int RUNS = 1500, CALLS = 512;
+    /** An object has at most 512 calls: up to 131 look at it at its end, and in close runs three more after each call. */
+    private static final int RUNS = 3000, CALLS = 380, CLOSE_CALLS = 95;
     private static final int[] EDGES = {
         0, 1, -1, 2, 3, 4, 5, 6, 7, 12, 13, 14, 15, 23, 24, 25, -24, -25, 71, 72, 73, 10000, 10001, -10000, -10001,
         1000, 1001, -1000, -1001, Integer.MAX_VALUE, Integer.MIN_VALUE, 715827883, 1431655766, 32768, 128, 200
@@ -72,7 +73,8 @@ public final class OracleTests {
         Random random = new Random(seed);
         FewPlaces x = new FewPlaces();
         Oracle o = new Oracle();
-        for (int i = 0; i < CALLS && wrong == 0; i++) {
+        boolean isClose = seed % 2 == 0;
+        for (int i = 0; i < (isClose ? CLOSE_CALLS : CALLS) && wrong == 0; i++) {
             Method call = calls.get(random.nextInt(calls.size()));
             if (random.nextInt(4) == 0) {
                 call = calls.stream().filter(m -> m.getName().matches("place|orbit|put|term|places")).toList().get(random.nextInt(5));
@@ -83,9 +85,11 @@ public final class OracleTests {
             long want = ((Number) twin.invoke(o, args)).longValue();
             String where = "run " + seed + ", call " + i + ": " + call.getName() + Arrays.toString(args);
             same(where, got, want);
-            same(where + " and then fault()", x.fault(), o.fault());
-            same(where + " and then trace()", x.trace(), o.trace());
-            same(where + " and then told(0)", x.told(0), o.told(0));
+            if (isClose) {
+                same(where + " and then fault()", x.fault(), o.fault());
+                same(where + " and then trace()", x.trace(), o.trace());
+                same(where + " and then told(0)", x.told(0), o.told(0));
+            }
         }
         compareRules("end of run " + seed, x, o);
     }

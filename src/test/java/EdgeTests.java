@@ -34,6 +34,7 @@ public final class EdgeTests {
         pairs();
         pairTakesOver();
         term();
+        termsAreNumbered();
         whole();
         byRule();
         sheet();
@@ -181,6 +182,8 @@ public final class EdgeTests {
             "places(0, 2, -1, 0) = 0", "fault() = 0");
         new Run("6 the last three cells").rows("sheet(0, 2, 4)", "put(0, 1, 7)", "put(0, 2, -7)", "put(0, 3, 77)", "places(0, 2, 2, 1) = -13",
             "places(0, 2, 1, 1) = 1", "about(0, 0) = 7", "about(0, 1) = -7", "about(0, 2) = 77");
+        new Run("6 the cells stay").rows("sheet(0, 0, 3)", "put(0, 0, 1)", "put(0, 1, 2)", "put(0, 2, 3)", "places(0, 0, 0, 1) = 1", "drop(0)",
+            "places(0, 0, 0, 1) = 1", "at(0, 0, 0) = 1", "at(0, 1, 0) = 2", "at(0, 2, 0) = 3", "about(0, 2) = 3");
         new Run("6 two cells are not three").rows("sheet(0, 2, 2)", "places(0, 2, 0, 1) = -13", "fault() = 3");
     }
 
@@ -429,7 +432,8 @@ public final class EdgeTests {
             "load(0) = 0", "told(1) = 2", "told(2) = 12", "told(3) = 10000", "about(0, 0) = -1", "load(4) = 24", "load(6) = -1", "told(0) = 24");
         new Run("15 a rule without places is kept, too").rows("load(0) = -1", "keep(0) = 0", "told(4) = 1", "place(1, 1, 1)", "load(0) = 0",
             "told(0) = 0", "told(4) = 1");
-        new Run("15 a copy: later changes are none of it").rows("place(1, 1, 5)", "place(1, 0, 6)", "keep(3) = 2", "keep(4) = 2", "place(1, 1, 1)",
+        new Run("15 a copy: later changes are none of it").rows("place(1, 1, 5)", "place(1, 0, 6)", "keep(3) = 2", "told(0) = 2",
+            "about(1, 2) = 6", "keep(4) = 2", "place(1, 1, 1)",
             "drop(1)", "load(3) = 2", "about(0, 2) = 5", "about(1, 2) = 6", "drop(0)", "place(1, 0, -6)", "load(3) = 2", "about(0, 2) = 5",
             "about(1, 2) = 6", "load(4) = 2", "about(0, 2) = 5");
         new Run("16 all but the rule stays").rows("keep(1)", "term(0, 5)", "place(0, 0, 1)", "tell(0)", "put(0, 0, 0) = -11", "load(1) = 0",
@@ -465,6 +469,11 @@ public final class EdgeTests {
     }
 
     private static void pairTakesOver() {
+        new Run("17 one pair after another").rows("pair(1, 6) = 5", "told(3) = 3", "begin(1, 1, 1)", "pair(2, 3) = 4", "told(3) = 24",
+            "about(3, 2) = 9", "pair(1, 2) = -9", "pair(2, 5) = 6", "told(3) = 168", "begin(2, 1, 1)", "pair(3, 1) = 5", "about(0, 0) = -1",
+            "about(0, 1) = 0", "begin(0, 1, 1)", "pair(4, 6) = -9", "pair(3, 1) = 5", "about(0, 0) = -1", "about(0, 1) = -1", "told(3) = 3",
+            "begin(1, 1, 1)", "pair(1, 1) = -9", "told(0) = 0", "pair(1, 4) = 6", "told(3) = 30", "begin(2, 1, 1)", "pair(1, 2) = 5",
+            "about(0, 0) = -2");
         filled("17 in place of all places", 24).rows("keep(2)", "pair(3, 6) = 5", "told(0) = 5", "told(2) = 6", "told(3) = 3", "about(4, 2) = 8",
             "about(5, 2) = -1", "place(-12, 20, 1) = 5", "load(2) = 24", "about(4, 2) = 1");
         new Run("17 all but the rule stays").rows("term(0, 5)", "place(0, 0, 1)", "tell(0)", "put(0, 0, 0) = -11", "pair(1, 1) = 5", "trace() = 1",
@@ -479,6 +488,15 @@ public final class EdgeTests {
         for (int t = 0; t < 15; t++) {
             run.row("term(%d, 0) = -1000", t);
         }
+    }
+
+    private static void termsAreNumbered() {
+        int[] values = {1, 2, 3, 4, 6, 9, 8, 12, 18, 27, 16, 24, 36, 54, 81};
+        Run run = new Run("18 by a + b, then by b").rows("place(2, 3, 1)");
+        for (int t = 0; t < 15; t++) {
+            run.row("term(%d, -1) = 0", t).fraction("byRule(1, %d)", -values[t], 1).row("term(%d, 0) = -1", t);
+        }
+        run.fraction("byRule(1, %d)", 0, 1);
     }
 
     private static Run allTerms(Run run, int c) {

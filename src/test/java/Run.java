@@ -5,6 +5,7 @@ import java.util.ArrayList;
 import java.util.HashMap;
 import java.util.List;
 import java.util.Map;
+import java.util.Set;
 import java.util.regex.Matcher;
 import java.util.regex.Pattern;
 
@@ -34,6 +35,11 @@ final class Run {
             }
         }
         return calls;
+    }
+
+    /** The names of all calls of the face. */
+    static Set<String> names() {
+        return FACE.keySet();
     }
 
     /** Tells how the tests of one class went, and ends the program if one failed. */

@@ -12,6 +12,7 @@ public final class EdgeTests {
         calls();
         begin();
         moment();
+        allMoments();
         place();
         roomForPlaces();
         orbit();
@@ -24,6 +25,7 @@ public final class EdgeTests {
         aboutDomains();
         aboutOrbits();
         sum();
+        allSums();
         error();
         degreeAndFirst();
         within();
@@ -101,6 +103,25 @@ public final class EdgeTests {
         new Run("3 diamond").rows("begin(2, 1, 1)").fraction("moment(0, 0, %d)", 2, 1).fraction("moment(6, 0, %d)", 1, 14)
             .fraction("moment(0, 6, %d)", 1, 14).fraction("moment(4, 2, %d)", 1, 210).fraction("moment(5, 1, %d)", 0, 1)
             .fraction("moment(3, 3, %d)", 0, 1).fraction("moment(1, 0, %d)", 0, 1);
+    }
+
+    /** A moment of the triangle is 1 by (n + 1) (n + 2) times the binomial of n and a, n being a + b. */
+    private static void allMoments() {
+        Run box = new Run("3 box, all").rows("begin(0, 5, 7)", "place(1, 2, 3)");
+        Run triangle = new Run("3 triangle, all").rows("begin(1, 5, 7)", "place(1, 2, 3)");
+        Run diamond = new Run("3 diamond, all").rows("begin(2, 5, 7)", "place(1, 2, 3)");
+        for (int n = 0; n <= 6; n++) {
+            for (int a = 0; a <= n; a++) {
+                int b = n - a;
+                boolean vanishes = a % 2 == 1 || b % 2 == 1;
+                int lower = (n + 1) * (n + 2) * binomial(n, a);
+                int common = lower % 4 == 0 ? 4 : 2;
+                String form = "moment(" + a + ", " + b + ", %d)";
+                box.fraction(form, vanishes ? 0 : 4, vanishes ? 1 : (a + 1) * (b + 1));
+                triangle.fraction(form, 1, lower);
+                diamond.fraction(form, vanishes ? 0 : 4 / common, vanishes ? 1 : lower / common);
+            }
+        }
     }
 
     private static void place() {
@@ -279,6 +300,18 @@ public final class EdgeTests {
         new Run("9 what goes up against another is 0 by 1").rows("begin(0, 7, 9)", "place(3, 0, 5)", "place(-3, 0, 5)")
             .fraction("sum(1, 0, %d)", 0, 1).fraction("sum(5, 0, %d)", 0, 1).fraction("sum(2, 0, %d)", 10, 49);
         new Run("9 nought to the power nought is 1").rows("place(0, 0, 3)").fraction("sum(0, 0, %d)", 3, 1).fraction("sum(1, 0, %d)", 0, 1);
+    }
+
+    private static void allSums() {
+        int[] twos = {1, 2, 4, 8, 16, 32, 64}, threes = {1, 3, 9, 27, 81, 243, 729}, fives = {1, 5, 25, 125, 625, 3125, 15625};
+        for (int domain = 0; domain <= 2; domain++) {
+            Run run = new Run("9 all powers").row("begin(%d, 5, 7)", domain).rows("place(2, 3, 11)");
+            for (int n = 0; n <= 6; n++) {
+                for (int a = 0; a <= n; a++) {
+                    run.fraction("sum(" + a + ", " + (n - a) + ", %d)", 11 * twos[a] * threes[n - a], 7 * fives[n]);
+                }
+            }
+        }
     }
 
     private static void error() {
@@ -574,7 +607,8 @@ public final class EdgeTests {
         new Run("22 a row without cells is something").rows("sheet(3, 2, 0)", "lose(3) = 1", "lose(3) = 0");
         new Run("22 the other sheets stay").rows("sheet(0, 1, 1)", "sheet(1, 1, 1)", "put(0, 0, 5)", "lose(1) = 1", "at(0, 0, 1) = 5", "lose(0) = 1");
         new Run("22 what it had does not come again").rows("sheet(0, 2, 2)", "put(0, 1, 5)", "lose(0)", "sheet(0, 2, 2)", "at(0, 1, 2) = 0");
-        new Run("22 names no fault").rows("put(0, 0, 0) = -11", "lose(0) = 0", "fault() = 1", "lose(4) = -1", "fault() = 1");
+        new Run("22 names no fault").rows("sheet(1, 0, 0)", "put(0, 0, 0) = -11", "lose(0) = 0", "fault() = 1", "lose(4) = -1", "fault() = 1",
+            "lose(1) = 1", "fault() = 1");
     }
 
     private static void cut(int lane, String v, String due) {
